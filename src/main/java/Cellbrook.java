@@ -865,7 +865,7 @@ public final class Cellbrook {
 
     /** Hands out nodes, and takes those back that no result leads to: a run makes too many to leave them. */
     private static final class Store {
-        private static final int LEAST = 1000;
+        private static final int LEAST = 500;
         private static final int MOST = 10_000_000;
 
         private final Result[] results;
@@ -1160,18 +1160,18 @@ public final class Cellbrook {
         private final Machine machine;
         private final Result[] results;
         /** Where this sheet's results stand among those of all sheets. */
-        private final int from;
+        private final int start;
 
-        Sheet(Version version, Links links, Machine machine, Result[] results, int from) {
+        Sheet(Version version, Links links, Machine machine, Result[] results, int start) {
             this.version = version;
             this.links = links;
             this.machine = machine;
             this.results = results;
-            this.from = from;
+            this.start = start;
         }
 
         Result resultOf(int cell) {
-            return results[from + cell];
+            return results[start + cell];
         }
 
         void forget(int cell) {
@@ -1236,7 +1236,11 @@ public final class Cellbrook {
                 return true;
             }
             for (int name = 0; name < NAMES; name++) {
-                if ((links.read[cell] >> name & 1) == 1 && !result.sawTheSame(name, kindRead(name), markRead(name))) {
+                if ((links.read[cell] >> name & 1) == 0) {
+                    continue;
+                }
+                Result from = source(name);
+                if (!result.sawTheSame(name, kindIn(from, name), markIn(from, name))) {
                     return true;
                 }
             }
@@ -1275,13 +1279,12 @@ public final class Cellbrook {
                 if ((links.read[cell] >> name & 1) == 0) {
                     continue;
                 }
-                int kind = kindRead(name);
-                long mark = markRead(name);
-                result.see(name, kind, mark);
-                if (kind == NOTHING) {
+                Result from = source(name);
+                result.see(name, kindIn(from, name), markIn(from, name));
+                if (from == null || from.kindOf(name) == NOTHING) {
                     readable = false;
                 } else {
-                    machine.know(name, mark, source(name).functionOf(name));
+                    machine.know(name, from.markOf(name), from.functionOf(name));
                 }
             }
             return readable;
@@ -1296,14 +1299,12 @@ public final class Cellbrook {
             return resultOf(cell);
         }
 
-        private int kindRead(int name) {
-            Result result = source(name);
-            return result == null ? NOTHING : result.kindOf(name);
+        private int kindIn(Result from, int name) {
+            return from == null ? NOTHING : from.kindOf(name);
         }
 
-        private long markRead(int name) {
-            Result result = source(name);
-            return result == null ? 0L : result.markOf(name);
+        private long markIn(Result from, int name) {
+            return from == null ? 0L : from.markOf(name);
         }
     }
 }

@@ -164,6 +164,10 @@ public final class ModelTest {
             aNumberExpr(depth);
             return;
         }
+        if (depth > 0 && kindOfRun == 3 && any(3) == 0) {
+            aChain();
+            return;
+        }
         switch (depth <= 0 ? any(2) : any(8)) {
             case 0 -> aFunctionName();
             case 1, 2, 3, 4 -> aFunctionOf(depth, any(6) == 0);
@@ -261,6 +265,37 @@ public final class ModelTest {
         name(12);
         call();
         number(19 + any(6));
+        call();
+        local(12);
+    }
+
+    /** A function that keeps a function, and so on, many times: what is kept must never be used for others. */
+    private void aChain() {
+        name(13);
+        number(1);
+        two(3);
+        aFunctionName();
+        name(12);
+        name(12);
+        call();
+        name(13);
+        number(1);
+        two(1);
+        call();
+        name(14);
+        name(15);
+        name(13);
+        two(0);
+        call();
+        function(15);
+        local(14);
+        choose();
+        function(13);
+        function(12);
+        name(12);
+        name(12);
+        call();
+        number(4 + any(8));
         call();
         local(12);
     }

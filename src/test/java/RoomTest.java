@@ -4,6 +4,9 @@ import java.lang.management.ManagementFactory;
 public final class RoomTest {
     /** All calls of one run may make 7.3 million fields and elements; a field takes 4 bytes at least. */
     private static final long MOST_BYTES = 4L * 1024 * 1024;
+    /** Where all that is found is to be used again. */
+    private static final long FEW_BYTES = 256L * 1024;
+    private static final int B = 1;
     private static final Check check = new Check("RoomTest");
     private static final com.sun.management.ThreadMXBean BEAN =
         (com.sun.management.ThreadMXBean) ManagementFactory.getThreadMXBean();
@@ -11,6 +14,7 @@ public final class RoomTest {
     public static void main(String[] args) {
         dearestCalls();
         functionsKeptForever();
+        functionsKeptByOthers();
         renames();
         deepest();
         check.end();
@@ -20,10 +24,10 @@ public final class RoomTest {
         return BEAN.getThreadAllocatedBytes(Thread.currentThread().getId());
     }
 
-    private static void within(String what, long before) {
+    private static void within(String what, long before, long most) {
         long bytes = made() - before;
         System.out.println("RoomTest: " + what + " made " + bytes + " bytes");
-        check.yes(what + " made " + bytes + " bytes, " + MOST_BYTES + " at most", bytes <= MOST_BYTES);
+        check.yes(what + " made " + bytes + " bytes, " + most + " at most", bytes <= most);
     }
 
     /** A body that makes functions and locals until its steps are at an end, or nearly so. */
@@ -43,20 +47,20 @@ public final class RoomTest {
         for (int i = 0; i < 512; i++) {
             y.setInput(0, i);
         }
-        within("12 busy cells, run at once by 512 calls,", before);
+        within("12 busy cells, run at once by 512 calls,", before, FEW_BYTES);
         check.same("all were run", y.runs(11), 513);
         check.same("their number", y.value(11, 11), 511);
         before = made();
         for (int i = 0; i < 512; i++) {
             y.valueAnew(i % 12, 0);
         }
-        within("12 busy cells, run anew by 512 calls,", before);
+        within("12 busy cells, run anew by 512 calls,", before, FEW_BYTES);
         before = made();
         for (int i = 0; i < 100; i++) {
             x = new Cellbrook();
         }
         check.same("a new object", x.cell(), 0);
-        within("100 new objects", before);
+        within("100 new objects", before, MOST_BYTES);
     }
 
     /** Each run keeps a function that keeps all that the run has found: what was kept before is to be used again. */
@@ -72,13 +76,37 @@ public final class RoomTest {
         for (int i = 0; i < 480; i++) {
             x.setInput(0, i);
         }
-        within("12 cells that keep functions", before);
+        within("12 cells that keep functions", before, FEW_BYTES);
         check.same("functions", x.kind(11, 11), Cellbrook.FUNCTION);
         Check.define(x, 11, 'p', "(call l 0)");
         check.same("what the last one finds", x.value(11, 15), 55 + 479);
         Check.define(x, 0, 'p', "(call a 0)");
         x.drop(11, 15);
         check.same("what the first one finds", x.value(0, 15), 55 + 479);
+    }
+
+    /** What is kept is not used for others, however much is found in between, and over whichever way it is reached. */
+    private static void functionsKeptByOthers() {
+        String chain = "(let g (fn g (fn n (if (< n 1) (fn a a) (let o (call (call g g) (- n 1))"
+            + " (fn p (call o (+ p n))))))) (call (call g g) 10))";
+        Cellbrook x = Check.notebook(Cellbrook.BY_HAND, "f = " + chain, "g = (let o f (fn p (call o (+ p 1000))))",
+            "", "b = (+ (call f i0) (* 100000 (call g i0)))", "h = f");
+        Check.define(x, 2, 'c', BUSY);
+        for (int cell = 0; cell < 5; cell++) {
+            x.run(cell);
+        }
+        // From here on the functions are reached over what g has kept alone, and h.
+        Check.define(x, 0, 'f', "1");
+        x.run(0);
+        Check.define(x, 3, 'b', "(+ (call h i0) (* 100000 (call g i0)))");
+        long before = made();
+        for (int i = 1; i <= 120; i++) {
+            x.setInput(0, i);
+            x.run(2);
+            x.run(3);
+            check.same("found by kept functions", x.value(3, B), 55 + i + 100000L * (1055 + i));
+        }
+        within("functions kept by others", before, FEW_BYTES);
     }
 
     private static void renames() {
@@ -98,7 +126,7 @@ public final class RoomTest {
         for (int i = 0; i < 200; i++) {
             x.rename(i % 2 == 0 ? 10 : 11, i % 2 == 0 ? 11 : 10);
         }
-        within("200 renames of 151 names", before);
+        within("200 renames of 151 names", before, MOST_BYTES);
         check.same("the last one", x.value(9, 9), 15);
     }
 

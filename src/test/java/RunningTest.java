@@ -9,6 +9,7 @@ public final class RunningTest {
     public static void main(String[] args) {
         setInput();
         seed();
+        lastBits();
         draws();
         mode();
         runByNeed();
@@ -66,6 +67,22 @@ public final class RunningTest {
         check.same("17: overflow", x.value(0, A), ExprsTest.drawn(Integer.MIN_VALUE, 0, 1, 1000));
         check.same("17: what it was", x.seed(Integer.MAX_VALUE), Integer.MIN_VALUE);
         check.same("17: overflow", x.value(0, A), ExprsTest.drawn(Integer.MAX_VALUE, 0, 1, 1000));
+    }
+
+    /** Seeds with which the last bits of the document's numbers tell. */
+    private static void lastBits() {
+        Cellbrook x = Check.notebook(Cellbrook.AT_ONCE, "a = (draw 65536)", "b = (if 1 2 (draw 3))");
+        int found = 0;
+        for (int seed = 0; seed < 1_000_000 && found < 20; seed++) {
+            int state = (seed * 31 + 1) * 1664525 + 1013904223;
+            if ((state & 0xFFFF) == 0 || (state & 0xFFFF) == 0xFFFF) {
+                found++;
+                x.seed(seed);
+                check.same("17: seed " + seed, x.value(0, A), state >>> 16);
+                check.same("17: a draw that is in it, behind all", x.runs(1), found + 2);
+            }
+        }
+        check.same("17: seeds", found, 20);
     }
 
     private static void draws() {
