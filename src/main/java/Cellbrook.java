@@ -12,6 +12,7 @@ public final class Cellbrook {
     private static final int DEFINITIONS = 4;
     private static final int STEPS = 300;
     private static final int SIGNS = 4;
+    private static final int MOST_DRAWN_OF = 2147483647;
     private static final int ALL_CELLS = (1 << CELLS) - 1;
 
     private static final int RIGHT = 0, DOUBLED = 1, RING = 2, UNDEFINED = 3, IMPOSSIBLE = 4, UNREADABLE = 5;
@@ -1095,7 +1096,7 @@ public final class Cellbrook {
             }
             height--;
             draws++;
-            int bound = (int) Math.min(numbers[height], (long) Integer.MAX_VALUE);
+            int bound = (int) Math.min(numbers[height], (long) MOST_DRAWN_OF);
             int state = resources.seed * 31 + running * 17 + draws;
             int drawn = state * 1664525 + 1013904223 >>> 16;
             return bound > 0 && give(drawn % bound, null);

@@ -7,6 +7,14 @@ final class Check {
         long answer();
     }
 
+    interface Start {
+        Cellbrook made();
+    }
+
+    interface Act {
+        long of(Cellbrook x);
+    }
+
     private final String test;
     private int asked;
     private int failed;
@@ -44,6 +52,14 @@ final class Check {
         String before = look(x);
         same(what, answerOf(call), "throws." + due.getSimpleName());
         same(what + " changes nothing", look(x), before);
+    }
+
+    /** Makes the same object twice, and refuses the call on one of them: both must go on alike, in all that can be told. */
+    void refusal(String what, Class<? extends RuntimeException> due, Start start, Act act) {
+        Cellbrook x = start.made();
+        Cellbrook twin = start.made();
+        refused(what, x, due, () -> act.of(x));
+        same(what + " changes nothing that is told later", goOn(x), goOn(twin));
     }
 
     static String answerOf(Call call) {
@@ -91,6 +107,40 @@ final class Check {
             seen.append("branch ").append(answerOf(() -> x.differ(b))).append("\n");
         }
         return seen.toString();
+    }
+
+    /** What only calls tell that change something: the mode, the resources, the next numbers, and each expr of the pile. */
+    static String goOn(Cellbrook x) {
+        StringBuilder told = new StringBuilder();
+        told.append("mode ").append(x.mode(Cellbrook.BY_HAND)).append(" seed ").append(x.seed(5)).append(" inputs");
+        for (int input = 0; input < 4; input++) {
+            told.append(" ").append(x.setInput(input, 100 + input));
+        }
+        told.append(" cell ").append(answerOf(x::cell)).append(" branch ").append(answerOf(x::keep)).append(" pile");
+        for (int cell = 0; cell < 12; cell++) {
+            int c = cell;
+            if (!answerOf(() -> x.error(c)).startsWith("throws")) {
+                goThroughPile(x, cell, told);
+                break;
+            }
+        }
+        return told.toString();
+    }
+
+    private static void goThroughPile(Cellbrook x, int cell, StringBuilder told) {
+        for (int name = 0; name < 16; name++) {
+            int n = name;
+            answerOf(() -> x.drop(cell, n));
+        }
+        for (int i = 0; i <= 20; i++) {
+            String defined = answerOf(() -> x.define(cell, 0));
+            if (defined.startsWith("throws")) {
+                break;
+            }
+            x.run(cell);
+            told.append(" | reads ").append(x.reads(cell)).append(" error ").append(x.error(cell))
+                .append(" is ").append(answerOf(() -> x.value(cell, 0)));
+        }
     }
 
     /** The number of the name a to p. */

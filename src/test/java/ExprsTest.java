@@ -52,7 +52,7 @@ public final class ExprsTest {
     }
 
     /** What the expr is in a cell of its own; d is a number 40 and f is a function x -> x + 1 elsewhere. */
-    private static String found(String text) {
+    static String found(String text) {
         Cellbrook x = Check.notebook(Cellbrook.AT_ONCE, "d = 40; f = (fn a (+ a 1))", "");
         x.setInput(0, 11);
         x.setInput(1, -12);
