@@ -47,18 +47,19 @@ final class Check {
         same(what, got ? 1 : 0, 0);
     }
 
-    /** Checks which exception a call throws, and that nothing that can be asked is another one behind it. */
+    /** Checks which exception a call throws; a glance only at what it leaves, as an object has 512 calls in all. */
     void refused(String what, Cellbrook x, Class<? extends RuntimeException> due, Call call) {
-        String before = look(x);
+        String before = glance(x);
         same(what, answerOf(call), "throws." + due.getSimpleName());
-        same(what + " changes nothing", look(x), before);
+        same(what + " changes nothing", glance(x), before);
     }
 
     /** Makes the same object twice, and refuses the call on one of them: both must go on alike, in all that can be told. */
     void refusal(String what, Class<? extends RuntimeException> due, Start start, Act act) {
         Cellbrook x = start.made();
         Cellbrook twin = start.made();
-        refused(what, x, due, () -> act.of(x));
+        same(what, answerOf(() -> act.of(x)), "throws." + due.getSimpleName());
+        same(what + " changes nothing", look(x), look(twin));
         same(what + " changes nothing that is told later", goOn(x), goOn(twin));
     }
 
@@ -75,6 +76,19 @@ final class Check {
         if (failed > 0) {
             System.exit(1);
         }
+    }
+
+    private static String glance(Cellbrook x) {
+        StringBuilder seen = new StringBuilder();
+        for (int cell = 0; cell < 12; cell++) {
+            int c = cell;
+            String error = answerOf(() -> x.error(c));
+            seen.append(error).append(" ");
+            if (!error.startsWith("throws")) {
+                seen.append(x.runs(cell)).append(" ");
+            }
+        }
+        return seen.append(answerOf(() -> x.differ(0))).toString();
     }
 
     /** The answers of all questions, as one text. */

@@ -243,25 +243,34 @@ public final class QuestionsTest {
         check.same("31: not stale, not run", x.runs(2), 1);
     }
 
-    private static void refused() {
+    /** Two cells, of which one was removed. */
+    private static Cellbrook oneOfTwo() {
         Cellbrook x = Check.notebook(Cellbrook.AT_ONCE, "a = 1", "b = 1");
         x.remove(1);
+        return x;
+    }
+
+    private static void refuses(String what, Check.Act act) {
+        check.refusal(what, INDEX, QuestionsTest::oneOfTwo, act);
+    }
+
+    private static void refused() {
         for (int cell : new int[] {-1, 1, 2, 12, Integer.MIN_VALUE, Integer.MAX_VALUE}) {
-            check.refused("23: cell " + cell, x, INDEX, () -> x.error(cell));
-            check.refused("24: cell " + cell, x, INDEX, () -> x.isStale(cell) ? 1 : 0);
-            check.refused("25: cell " + cell, x, INDEX, () -> x.kind(cell, A));
-            check.refused("26: cell " + cell, x, INDEX, () -> x.value(cell, A));
-            check.refused("27: cell " + cell, x, INDEX, () -> x.valueAnew(cell, A));
-            check.refused("28: cell " + cell, x, INDEX, () -> x.errorAnew(cell));
-            check.refused("29: cell " + cell, x, INDEX, () -> x.reads(cell));
-            check.refused("30: cell " + cell, x, INDEX, () -> x.slice(cell));
-            check.refused("31: cell " + cell, x, INDEX, () -> x.runs(cell));
+            refuses("23: cell " + cell, x -> x.error(cell));
+            refuses("24: cell " + cell, x -> x.isStale(cell) ? 1 : 0);
+            refuses("25: cell " + cell, x -> x.kind(cell, A));
+            refuses("26: cell " + cell, x -> x.value(cell, A));
+            refuses("27: cell " + cell, x -> x.valueAnew(cell, A));
+            refuses("28: cell " + cell, x -> x.errorAnew(cell));
+            refuses("29: cell " + cell, x -> x.reads(cell));
+            refuses("30: cell " + cell, x -> x.slice(cell));
+            refuses("31: cell " + cell, x -> x.runs(cell));
         }
         for (int name : new int[] {-1, 16, Integer.MIN_VALUE, Integer.MAX_VALUE}) {
-            check.refused("25: name " + name, x, INDEX, () -> x.kind(0, name));
-            check.refused("26: name " + name, x, INDEX, () -> x.value(0, name));
-            check.refused("27: name " + name, x, INDEX, () -> x.valueAnew(0, name));
+            refuses("25: name " + name, x -> x.kind(0, name));
+            refuses("26: name " + name, x -> x.value(0, name));
+            refuses("27: name " + name, x -> x.valueAnew(0, name));
         }
-        check.refused("26: the name comes ahead of the state", x, INDEX, () -> x.value(0, 99));
+        refuses("26: the name comes ahead of the state", x -> x.value(0, 99));
     }
 }

@@ -15,6 +15,7 @@ public final class RoomTest {
         dearestCalls();
         functionsKeptForever();
         functionsKeptByOthers();
+        muchAndLittle();
         renames();
         deepest();
         check.end();
@@ -34,27 +35,34 @@ public final class RoomTest {
     private static final String BUSY =
         "(let g (fn g (fn n (if (< n 1) i0 (let h (fn h (+ h n)) (call (call g g) (- n 1)))))) (call (call g g) 16))";
 
-    private static void dearestCalls() {
+    /** Twelve cells that are busy, made by 301 calls. */
+    private static Cellbrook busy() {
         Cellbrook x = new Cellbrook();
-        long before = made();
-        Cellbrook y = new Cellbrook();
+        x.mode(Cellbrook.BY_HAND);
         for (int cell = 0; cell < 12; cell++) {
-            y.cell();
-            Check.define(y, cell, (char) ('a' + cell), BUSY);
+            x.cell();
+            Check.define(x, cell, (char) ('a' + cell), BUSY);
         }
+        return x;
+    }
+
+    private static void dearestCalls() {
+        Cellbrook x = busy();
+        x.mode(Cellbrook.AT_ONCE);
         // What the tests make themselves to put the exprs is not of interest.
-        before = made();
-        for (int i = 0; i < 512; i++) {
-            y.setInput(0, i);
+        long before = made();
+        for (int i = 0; i < 150; i++) {
+            x.setInput(0, i);
         }
-        within("12 busy cells, run at once by 512 calls,", before, FEW_BYTES);
-        check.same("all were run", y.runs(11), 513);
-        check.same("their number", y.value(11, 11), 511);
+        within("12 busy cells, run at once by 150 calls,", before, FEW_BYTES);
+        check.same("all were run", x.runs(11), 150);
+        check.same("their number", x.value(11, 11), 149);
+        Cellbrook y = busy();
         before = made();
-        for (int i = 0; i < 512; i++) {
+        for (int i = 0; i < 150; i++) {
             y.valueAnew(i % 12, 0);
         }
-        within("12 busy cells, run anew by 512 calls,", before, FEW_BYTES);
+        within("12 busy cells, run anew by 150 calls,", before, FEW_BYTES);
         before = made();
         for (int i = 0; i < 100; i++) {
             x = new Cellbrook();
@@ -73,16 +81,16 @@ public final class RoomTest {
             Check.define(x, cell, (char) ('a' + cell), body);
         }
         long before = made();
-        for (int i = 0; i < 480; i++) {
+        for (int i = 0; i < 80; i++) {
             x.setInput(0, i);
         }
         within("12 cells that keep functions", before, FEW_BYTES);
         check.same("functions", x.kind(11, 11), Cellbrook.FUNCTION);
         Check.define(x, 11, 'p', "(call l 0)");
-        check.same("what the last one finds", x.value(11, 15), 55 + 479);
+        check.same("what the last one finds", x.value(11, 15), 55 + 79);
         Check.define(x, 0, 'p', "(call a 0)");
         x.drop(11, 15);
-        check.same("what the first one finds", x.value(0, 15), 55 + 479);
+        check.same("what the first one finds", x.value(0, 15), 55 + 79);
     }
 
     /** What is kept is not used for others, however much is found in between, and over whichever way it is reached. */
@@ -100,13 +108,31 @@ public final class RoomTest {
         x.run(0);
         Check.define(x, 3, 'b', "(+ (call h i0) (* 100000 (call g i0)))");
         long before = made();
-        for (int i = 1; i <= 120; i++) {
+        for (int i = 1; i <= 60; i++) {
             x.setInput(0, i);
             x.run(2);
             x.run(3);
             check.same("found by kept functions", x.value(3, B), 55 + i + 100000L * (1055 + i));
         }
         within("functions kept by others", before, FEW_BYTES);
+    }
+
+    /** Runs that make much and runs that make little, in turn: whatever is free then, nothing is used twice at a time. */
+    private static void muchAndLittle() {
+        String loop = "(let g (fn g (fn n (if (< n 1) i0 (let h (fn h (+ h n)) (call h (call (call g g) (- n 1)))))))"
+            + " (call (call g g) ";
+        int[] times = {14, 9, 2, 0};
+        int turn = 1;
+        for (int object = 0; object < 40; object++) {
+            Cellbrook x = Check.notebook(Cellbrook.BY_HAND, "a = " + loop + times[0] + "))", "b = " + loop + times[1] + "))",
+                "c = " + loop + times[2] + "))", "d = " + loop + times[3] + "))");
+            for (int i = 0; i < 190; i++) {
+                turn = turn * 1103515245 + 12345;
+                int cell = turn >>> 20 & 3;
+                x.run(cell);
+                check.same("run " + i, x.value(cell, cell), times[cell] * (times[cell] + 1) / 2);
+            }
+        }
     }
 
     private static void renames() {
@@ -123,10 +149,10 @@ public final class RoomTest {
         x.cell();
         Check.define(x, 10, 'k', "1");
         long before = made();
-        for (int i = 0; i < 200; i++) {
+        for (int i = 0; i < 190; i++) {
             x.rename(i % 2 == 0 ? 10 : 11, i % 2 == 0 ? 11 : 10);
         }
-        within("200 renames of 151 names", before, MOST_BYTES);
+        within("190 renames of 151 names", before, MOST_BYTES);
         check.same("the last one", x.value(9, 9), 15);
     }
 

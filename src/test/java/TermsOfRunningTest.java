@@ -377,8 +377,9 @@ public final class TermsOfRunningTest {
         int high = 0;
         for (int seed = 0; seed < 200; seed++) {
             x.seed(seed);
-            check.same("with zeros", x.value(0, A), drawnByLongs(seed, 0, 1));
-            high += x.value(0, A) >= 32768 ? 1 : 0;
+            long value = x.value(0, A);
+            check.same("with zeros", value, drawnByLongs(seed, 0, 1));
+            high += value >= 32768 ? 1 : 0;
         }
         check.yes("some are of a number below 0", high > 50 && high < 150);
         long whole = drawn(0, 1, 1, 65536);
